@@ -824,7 +824,7 @@ public final class CrumbWood {
         }
 
         int all() {
-            return (1 << places) - 1;
+            return ofKind[0];
         }
 
         int standing() {

@@ -12,6 +12,7 @@ public final class LedTest {
         here();
         led();
         keepAndOn();
+        keptFarOn();
         withoutPlaces();
         Due.end();
     }
@@ -191,6 +192,20 @@ public final class LedTest {
         Due.refused("25 on(-1)", x, () -> x.on(-1), BAD);
         Due.refused("24 keep(3)", x, () -> x.keep(3), BAD);
         Due.refused("24 keep(-1)", x, () -> x.keep(-1), BAD);
+    }
+
+    private static void keptFarOn() {
+        CrumbWood far = Due.wood("pp-01k000");
+        for (int i = 1; i <= 29; i++) {
+            far.lead(i % 2);
+        }
+        far.keep(1);
+        far.lead(0);
+        far.keep(2);
+        far.on(1);
+        Due.both("25 29 STEPS", far, far.here(), 1, 29);
+        Due.is("25 on to 30 STEPS", far.on(2), 30);
+        Due.both("25 30 STEPS", far, far.here(), 0, 30);
     }
 
     private static void withoutPlaces() {

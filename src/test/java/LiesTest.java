@@ -28,6 +28,7 @@ public final class LiesTest {
         Due.both("37 four STEPS, HOME not marked", x, x.ways(4), 6, 1);
         x.fool(0, 0);
         Due.both("37 four STEPS, HOME marked", x, x.ways(4), 10, 1);
+        Due.both("37 no STEP behind others", x, x.ways(0), 0, NONE);
         x.take(3, 1);
         Due.both("37 not where they are", x, x.ways(2), 0, NONE);
         CrumbWood hidden = Due.wood("pcm-01-12k000");
@@ -156,6 +157,11 @@ public final class LiesTest {
         Due.is("41 it lies", few.count(4), 1);
         Due.told("41 it lies in 0", few, few.place(0, 2), 1);
         Due.is("41 none left", few.pocket(0), 0);
+        // of 1 .. 5 at 48271 % 5 = 1: 2; at 182605794 % 5 = 4: of 0, 1, 3, 4, 5 the last; at 1291394886 % 5 = 1
+        CrumbWood many = Due.wood("pppppp-01-02-03-04-05-21-23-24-25-51-53-54k000");
+        many.lots(3, 1);
+        many.led(0);
+        Due.cells("41 the last of five", many, 0, 0, 2, 5, 1);
         CrumbWood brook = Due.wood("bb-01k900");
         Due.is("41 in BROOKS", brook.lots(3, 1), 3);
         Due.is("41 in BROOKS none lies", brook.count(4), 0);

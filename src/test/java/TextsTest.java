@@ -56,6 +56,9 @@ public final class TextsTest {
         wrongTurns();
         tooMany();
         CrumbWood x = new CrumbWood();
+        Due.write(x, 0, "pppppp-01-02-03-04-05-12-13-14k000");
+        Due.is("10 fault once", x.fault(0), NONE);
+        Due.is("10 fault twice", x.fault(0), NONE);
         Due.refused("10 fault(4)", x, () -> x.fault(4), BAD);
         Due.refused("10 fault(-1)", x, () -> x.fault(-1), BAD);
         Due.found("10 fault(3)", x, () -> x.fault(3), NOTHING);
@@ -157,6 +160,8 @@ public final class TextsTest {
         x.keep(2);
         x.path(0, 2, 1);
         x.hours(1);
+        // what is looked at aside must not come into the next WOOD
+        x.waits();
         Due.write(x, 1, "pp");
         Due.refused("11 wood with a fault", x, () -> x.wood(1), STATE);
         Due.found("11 wood(2)", x, () -> x.wood(2), NOTHING);
@@ -175,6 +180,7 @@ public final class TextsTest {
         Due.is("11 anew: bird(0)", x.bird(0), 1);
         Due.is("11 anew: pocket(0)", x.pocket(0), 3);
         Due.write(x, 3, "ppk000");
+        x.waits();
         Due.is("11 another wood", x.wood(3), 2);
         Due.is("11 another: PATHS", x.count(1), 0);
         Due.is("11 another: BIRDS", x.count(2), 0);
