@@ -148,6 +148,8 @@ public final class ToldTest {
     private static void digest() {
         CrumbWood x = new CrumbWood();
         long h = fold(17, 0, 0, 0, 0, 0, 0, 0, 0, 0, 0, 0, 0, 0, 0);
+        // THE CHILDREN are at HOME at first
+        h = fold(h, 0);
         h = fold(h, -1, -1, -1, -1, -1, -1, -1, -1, -1, -1, -1, -1, -1);
         Due.is("48 of a new object", x.digest(), h);
     }
