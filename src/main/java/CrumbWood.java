@@ -1001,8 +1001,8 @@ public final class CrumbWood {
             for (int i = 0; i < birds; i++) {
                 h = 31 * h + perches[i];
             }
-            // THE CHILDREN are at HOME at first, also ahead of any PLACES, so that HOME is always told.
-            for (int i = 0; i <= steps; i++) {
+            // Without PLACES there is no HOME from which they could have been LED.
+            for (int i = 0; i <= steps && !isEmpty(); i++) {
                 h = 31 * h + way[i];
             }
             return h;

@@ -944,7 +944,7 @@ final class PlainWood {
             }
         }
         all.addAll(now.birds);
-        all.addAll(now.led.isEmpty() ? List.of(0) : now.led);
+        all.addAll(now.led);
         for (Scene scene : kept) {
             all.add(scene == null ? -1 : scene.led.size() - 1);
         }

@@ -1,6 +1,6 @@
 /** Promises 42 to 48: what is told. */
 public final class ToldTest {
-    private static final int BAD = CrumbWood.BAD, NONE = CrumbWood.NONE;
+    private static final int BAD = CrumbWood.BAD, STATE = CrumbWood.STATE, NONE = CrumbWood.NONE;
 
     public static void main(String[] args) {
         asked();
@@ -8,6 +8,7 @@ public final class ToldTest {
         count();
         findings();
         digest();
+        digestAheadOfPlaces();
         digestOfAll();
         Due.end();
     }
@@ -148,10 +149,29 @@ public final class ToldTest {
     private static void digest() {
         CrumbWood x = new CrumbWood();
         long h = fold(17, 0, 0, 0, 0, 0, 0, 0, 0, 0, 0, 0, 0, 0, 0);
-        // THE CHILDREN are at HOME at first
+        // no PLACES, so none by which THE CHILDREN were LED
+        long woods = fold(h, -1, -1, -1);
+        long rows = fold(woods, -1, -1, -1, -1, -1, -1);
+        Due.is("48 of a new object", x.digest(), fold(rows, -1, -1, -1, -1));
+        Due.is("48 of a new object, as a number", x.digest(), -2914827305607008754L);
+    }
+
+    /** ROWS and TEXTS, one with a FAULT, bring no PLACES; the first WOOD brings HOME. */
+    private static void digestAheadOfPlaces() {
+        CrumbWood x = new CrumbWood();
+        x.row(5, 1);
+        Due.write(x, 0, "ppk00");
+        Due.is("48 a FAULT", x.wood(0), STATE);
+        long h = fold(17, 0, 0, 0, 0, 0, 0, 0, 1, 1, 0, 0, 0, 0, 0);
+        h = fold(h, -1, -1, -1, -1, -1, -1, -1, -1, 1, 0);
+        Due.is("48 ahead of PLACES", x.digest(), fold(h, 5, 'p', 'p', 'k', '0', '0', -1, -1, -1));
+        Due.write(x, 0, "ppk000");
+        Due.is("48 the first WOOD", x.wood(0), 2);
+        h = fold(17, 2, 0, 0, 0, 0, 0, 0, 1, 1, 0, 0, 0, 0, 0);
+        h = fold(h, 0, 0, 0, 0, 0, 0, 0, 0, 0, 0, 0, 0);
         h = fold(h, 0);
-        h = fold(h, -1, -1, -1, -1, -1, -1, -1, -1, -1, -1, -1, -1, -1);
-        Due.is("48 of a new object", x.digest(), h);
+        h = fold(h, -1, -1, -1, -1, -1, -1, -1, -1, 1, 0);
+        Due.is("48 with HOME", x.digest(), fold(h, 6, 'p', 'p', 'k', '0', '0', '0', -1, -1, -1));
     }
 
     private static void digestOfAll() {
