@@ -2,8 +2,14 @@
 final class Due {
     private static int asked = 0;
     private static int wrong = 0;
+    private static String about = "";
 
     private Due() {
+    }
+
+    /** What stands ahead of each wrong answer that is printed from now on. */
+    static void about(String words) {
+        about = words;
     }
 
     /** One answer against the one that is due. */
@@ -11,7 +17,7 @@ final class Due {
         asked++;
         if (got != want) {
             wrong++;
-            System.out.println(call + " answered " + got + ", due is " + want);
+            System.out.println(about + call + " answered " + got + ", due is " + want);
         }
     }
 
@@ -57,6 +63,15 @@ final class Due {
     static void chances(String call, CrumbWood x, long upper, long lower) {
         is(call + " upper()", x.upper(), upper);
         is(call + " lower()", x.lower(), lower);
+    }
+
+    /** The digest's way: 31 times what is ahead, and each value, with Java's wrap-around. */
+    static long fold(long h, int... values) {
+        long on = h;
+        for (int v : values) {
+            on = 31 * on + v;
+        }
+        return on;
     }
 
     static void write(CrumbWood x, int t, String text) {

@@ -138,21 +138,13 @@ public final class ToldTest {
         Due.refused("47 findings(-1)", x, () -> x.findings(-1), BAD);
     }
 
-    private static long fold(long h, int... values) {
-        long on = h;
-        for (int v : values) {
-            on = 31 * on + v;
-        }
-        return on;
-    }
-
     private static void digest() {
         CrumbWood x = new CrumbWood();
-        long h = fold(17, 0, 0, 0, 0, 0, 0, 0, 0, 0, 0, 0, 0, 0, 0);
+        long h = Due.fold(17, 0, 0, 0, 0, 0, 0, 0, 0, 0, 0, 0, 0, 0, 0);
         // no PLACES, so none by which THE CHILDREN were LED
-        long woods = fold(h, -1, -1, -1);
-        long rows = fold(woods, -1, -1, -1, -1, -1, -1);
-        Due.is("48 of a new object", x.digest(), fold(rows, -1, -1, -1, -1));
+        long woods = Due.fold(h, -1, -1, -1);
+        long rows = Due.fold(woods, -1, -1, -1, -1, -1, -1);
+        Due.is("48 of a new object", x.digest(), Due.fold(rows, -1, -1, -1, -1));
         Due.is("48 of a new object, as a number", x.digest(), -2914827305607008754L);
     }
 
@@ -162,16 +154,16 @@ public final class ToldTest {
         x.row(5, 1);
         Due.write(x, 0, "ppk00");
         Due.is("48 a FAULT", x.wood(0), STATE);
-        long h = fold(17, 0, 0, 0, 0, 0, 0, 0, 1, 1, 0, 0, 0, 0, 0);
-        h = fold(h, -1, -1, -1, -1, -1, -1, -1, -1, 1, 0);
-        Due.is("48 ahead of PLACES", x.digest(), fold(h, 5, 'p', 'p', 'k', '0', '0', -1, -1, -1));
+        long h = Due.fold(17, 0, 0, 0, 0, 0, 0, 0, 1, 1, 0, 0, 0, 0, 0);
+        h = Due.fold(h, -1, -1, -1, -1, -1, -1, -1, -1, 1, 0);
+        Due.is("48 ahead of PLACES", x.digest(), Due.fold(h, 5, 'p', 'p', 'k', '0', '0', -1, -1, -1));
         Due.write(x, 0, "ppk000");
         Due.is("48 the first WOOD", x.wood(0), 2);
-        h = fold(17, 2, 0, 0, 0, 0, 0, 0, 1, 1, 0, 0, 0, 0, 0);
-        h = fold(h, 0, 0, 0, 0, 0, 0, 0, 0, 0, 0, 0, 0);
-        h = fold(h, 0);
-        h = fold(h, -1, -1, -1, -1, -1, -1, -1, -1, 1, 0);
-        Due.is("48 with HOME", x.digest(), fold(h, 6, 'p', 'p', 'k', '0', '0', '0', -1, -1, -1));
+        h = Due.fold(17, 2, 0, 0, 0, 0, 0, 0, 1, 1, 0, 0, 0, 0, 0);
+        h = Due.fold(h, 0, 0, 0, 0, 0, 0, 0, 0, 0, 0, 0, 0);
+        h = Due.fold(h, 0);
+        h = Due.fold(h, -1, -1, -1, -1, -1, -1, -1, -1, 1, 0);
+        Due.is("48 with HOME", x.digest(), Due.fold(h, 6, 'p', 'p', 'k', '0', '0', '0', -1, -1, -1));
     }
 
     private static void digestOfAll() {
@@ -184,20 +176,20 @@ public final class ToldTest {
         Due.lay(x, 3, 7, -8);
         x.text(2, 1);
         x.put(2, 0, 200);
-        long h = fold(17, 3, 2, 1, 2, 1, 1, 0, 1, 2, 1, 1);
-        h = fold(h, 2, 1, 1);
-        h = fold(h, 0, 2, 0, 0, 0, 0);
-        h = fold(h, 4, 5, 1, 0, 0, 5);
-        h = fold(h, 2, 2, 0, 1, 0, 2);
-        h = fold(h, 2);
-        h = fold(h, 0, 1, 2);
-        h = fold(h, -1, 1, -1);
-        h = fold(h, -1, -1, -1, 2, 7, -8, -1, -1);
-        h = fold(h, 15);
+        long h = Due.fold(17, 3, 2, 1, 2, 1, 1, 0, 1, 2, 1, 1);
+        h = Due.fold(h, 2, 1, 1);
+        h = Due.fold(h, 0, 2, 0, 0, 0, 0);
+        h = Due.fold(h, 4, 5, 1, 0, 0, 5);
+        h = Due.fold(h, 2, 2, 0, 1, 0, 2);
+        h = Due.fold(h, 2);
+        h = Due.fold(h, 0, 1, 2);
+        h = Due.fold(h, -1, 1, -1);
+        h = Due.fold(h, -1, -1, -1, 2, 7, -8, -1, -1);
+        h = Due.fold(h, 15);
         for (char c : "pmt-01-12v2k321".toCharArray()) {
-            h = fold(h, c);
+            h = Due.fold(h, c);
         }
-        h = fold(h, -1, 1, -56, -1);
+        h = Due.fold(h, -1, 1, -56, -1);
         int asked = x.asked();
         Due.is("48 of all", x.digest(), h);
         Due.is("48 leaves asked()", x.asked(), asked);
