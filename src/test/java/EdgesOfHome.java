@@ -108,6 +108,7 @@ final class EdgesOfHome {
         Script.run(CHAIN + "nearest() = 0 : 1; lead: 1; nearest() = 1 : 1; lead: 2 3 4 5 6 7; nearest() = 7 : 1; path(0, 7, 1) = 0; nearest() = 1 : 1");
         Script.run(FAN + "lead: 1 7; nearest() = 2 : 6; fool(1, 1) = 1; nearest() = 2 : 6; path(0, 6, 0) = 1; nearest() = 2 : 5");
         Script.run("wood \"ppppppp-01-02-13-14-15-23-24-25-36-46-56k000\"; lead: 1 3 6; nearest() = 3 : 6; path(0, 1, 0) = 1; nearest() = 3 : 3");
+        Script.run("wood \"cmctbg-01-12-23-34-45k000\"; lead: 1 2 3 4 5; nearest() = 5 : 1; path(0, 4, 1) = 0; nearest() = 2 : 1");
         Sentences.says(30, "NONE: none.");
         Script.run("wood \"ppp-01-12k000\"; lead: 1 2; path(0, 1, 0) = 1; nearest() = NONE; fool(1, 1) = 1; nearest() = NONE; path(1, 2, 0) = 1; nearest() = NONE");
         Script.run("wood \"ppk000\"; nearest() = 0 : 1");
@@ -220,6 +221,8 @@ final class EdgesOfHome {
             """);
         // on where they are, on HOME, in a CAVE it leads nobody astray; in a THICKET it does
         Script.run("wood \"pppct-01-12-23-24k000\"; lead: 1 2; fool(1, 2) = 1; astray() = 16");
+        Script.run("wood \"ppptmgb-01-12-23-25-26k000\"; lead: 1 2; fool(1, 2) = 1; astray() = 104; take(1, 2) = 1; fool(1, 1) = 1; astray() = 0");
+        Script.run("wood \"mppm-01-12-23k000\"; lead: 1 2; fool(1, 2) = 1; home() = 1 : 2; astray() = 8");
         // further on, too: from 3 to 2 they go anyhow, and there to 4
         Script.run("wood \"ppppp-01-12-23-24k000\"; lead: 1 2 3; fool(1, 0) = 1; fool(2, 0) = 1; astray() = 16");
         noPlaces(33, "STATE: no PLACES.", "astray()");

@@ -262,6 +262,12 @@ final class EdgesOfPlaces {
             lead: 1; hours(2) = 1; on(1) = 2; here() = 2 : 2; place(0, 2) = 1 : 1; on(1) = 2
             """);
         Script.run("wood \"pp-01k000\"; keep(0) = 0; lots(20, 1) = 20; lots(10, 1) = 10; keep(1) = 30; on(0) = 0; lead(1) = 1; on(1) = 30; lead(1) = FULL");
+        // the last of 30 STEPS, and the one ahead of it, led elsewhere in the WOOD that is gone on from
+        Script.run("""
+            wood "pppp-01-02-13-23k000"; 14 times lots(2, 1); keep(0) = 28; lead: 1 3; keep(1) = 30; on(0) = 28; lead: 2; keep(2) = 29; lead: 0
+            here() = 0 : 30; on(1) = 30; here() = 3 : 30; led(0) = 31; at(0, 29) = 1 : 1; at(0, 30) = 1 : 3; on(2) = 29; here() = 2 : 29; lead: 0
+            on(1) = 30; here() = 3 : 30; wrong() = NONE; lead(1) = FULL
+            """);
         Sentences.says(25, "BAD; NOTHING.");
         CrumbWood x = Script.run("on(0) = NOTHING; wood \"pp-01k000\"; on(0) = NOTHING; keep(1) = 0; on(0) = NOTHING; on(2) = NOTHING; on(1) = 0; lead(1) = 1");
         EdgesOfRows.bad(x, "on(?)", 3);

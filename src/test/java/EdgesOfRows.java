@@ -234,6 +234,14 @@ final class EdgesOfRows {
             asked() = 4; here() = 0 : 0; count(3) = 0; led(1) = 1; cells 1: 0
             count(1) = 2; bird(0) = 1; pocket(0) = 3; pocket(1) = 2; pocket(2) = 1; upper() = 1; cells 0: 4; count(8) = 1
             """);
+        // nor does anything come into it of what was only looked at
+        Script.run("""
+            text 1 "pppk321"; wood "tbcm-01-12-23v1k999"; lead: 1 2 3; drop(0) = 8; drop(1) = 8; fool(1, 0) = 0; fool(1, 2) = 1; fool(0, 0) = 1
+            waits() = 0; bare() = NONE; row(0, 0) = 0; fewest(0, 3) = NONE; fault(1) = NONE; waits() = 0; wood(1) = 3
+            here() = 0 : 0; led(1) = 1; cells 1: 0; count(1) = 0; count(2) = 0; count(3) = 0; count(4) = 0; count(5) = 0; count(6) = 0; count(10) = 0
+            pocket(0) = 3; pocket(1) = 2; pocket(2) = 1; mark(1, 3) = UNLIKE; mark(0, 2) = UNLIKE; place(2, 5) = 1 : 0; place(3, 0) = BAD
+            waits() = NONE; wood(0) = 4; mark(1, 3) = 0; mark(0, 2) = 0; count(4) = 0; count(6) = 0; lead: 1 2 3; home() = 0 : 0
+            """);
         // the TEXT is read once: what is put later changes no WOOD
         Script.run("text 0 \"pp-01k000\"; wood(0) = 2; put(0, 0, 120) = 1112; count(0) = 2; lead(1) = 1; wood(0) = STATE; here() = 1 : 1");
     }

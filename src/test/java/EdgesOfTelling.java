@@ -132,6 +132,8 @@ final class EdgesOfTelling {
             on(0) = 0; path(0, 2, 0) = 1; path(0, 4, 0) = 1; path(0, 5, 0) = 1; path(0, 6, 0) = 1; lots(1, 1) = 1; here() = 3 : 1
             path(0, 3, 0) = 1; path(3, 4, 1) = 0; path(3, 7, 1) = 0; lots(1, 1) = 1; here() = 7 : 2
             """);
+        // beside 2 are 0, 1, 3, 4, 5: of these 182605794, 4 modulo 5, is at the last; then 1291394886, 1 modulo 5, at the second
+        Script.run("wood \"pppppp-01-02-03-04-05-21-23-24-25-51-53-54k000\"; lots(3, 1) = 3; led(0) = 4; cells 0: 0 2 5 1");
         Sentences.says(41, "and, if it by 64, cut, is odd, they DROP a CRUMB there, if they have one;");
         // 48271 by 64 is 754, 2147435376 by 64 is 33553677, 241355 by 64 is 3771
         Script.run("wood \"pp-01k955\"; lots(1, 1) = 1; pocket(0) = 9; count(4) = 0; lots(1, 5) = 1; pocket(0) = 8; place(0, 2) = 1 : 1; lots(1, 2147483646) = 1;"

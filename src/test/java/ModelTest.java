@@ -1,8 +1,4 @@
-import java.lang.reflect.InvocationTargetException;
 import java.lang.reflect.Method;
-import java.util.ArrayList;
-import java.util.Comparator;
-import java.util.List;
 import java.util.Random;
 
 /** Random runs of calls, by seeds that stay the same, each answer compared with PlainWood's; no call may throw. */
@@ -10,70 +6,50 @@ public final class ModelTest {
     private static final int RUNS = 400, CALLS = 512, TEXTS = 20000;
     private static final int[] EDGES = {Integer.MIN_VALUE, Integer.MAX_VALUE, -1, 9, 40, 41, 80, 81, 1000, -1000, 256};
 
-    private static final class Pair {
-        final CrumbWood wood = new CrumbWood();
-        final PlainWood plain = new PlainWood();
-        final Random random;
-        final StringBuilder log = new StringBuilder();
-
-        Pair(long seed) {
-            random = new Random(seed);
-        }
+    private ModelTest() {
     }
 
-    public static void main(String[] args) throws ReflectiveOperationException {
-        List<Method> face = face();
+    public static void main(String[] args) {
         for (int run = 0; run < RUNS; run++) {
-            Pair pair = new Pair(run);
+            Pair pair = new Pair();
+            Random random = new Random(run);
             boolean same = true;
             for (int i = 0; i < CALLS && same; i++) {
-                same = step(pair, face);
+                same = step(pair, random);
             }
             if (!same) {
                 System.out.println("run " + run + ":\n" + pair.log);
                 break;
             }
         }
-        texts(face);
+        texts();
         Due.end();
     }
 
-    private static List<Method> face() {
-        List<Method> face = new ArrayList<>();
-        for (Method method : CrumbWood.class.getDeclaredMethods()) {
-            if (java.lang.reflect.Modifier.isPublic(method.getModifiers())) {
-                face.add(method);
-            }
-        }
-        face.sort(Comparator.comparing(Method::getName));
-        return face;
-    }
-
     /** A random call; now and then a whole WOOD is written, for else there would hardly be one. */
-    private static boolean step(Pair pair, List<Method> face) throws ReflectiveOperationException {
-        Random random = pair.random;
+    private static boolean step(Pair pair, Random random) {
         int dice = random.nextInt(200);
         if (dice == 0 || dice < 60 && pair.plain.count(0) == 0) {
-            return writeWood(pair, face, randomWood(random));
+            return writeWood(pair, randomWood(random));
         }
         if (dice < 20) {
-            return walk(pair, face);
+            return walk(pair, random);
         }
         if (dice < 50) {
-            return compare(pair, named(face, "fool"), random.nextInt(8), random.nextInt(3));
+            return pair.compare("fool", random.nextInt(8), random.nextInt(3));
         }
         if (dice < 65) {
-            return compare(pair, named(face, "lead"), random.nextInt(8));
+            return pair.compare("lead", random.nextInt(8));
         }
         if (dice == 66) {
-            return compare(pair, named(face, "lots"), 1 + random.nextInt(6), 1 + random.nextInt(2147483646));
+            return pair.compare("lots", 1 + random.nextInt(6), 1 + random.nextInt(2147483646));
         }
-        Method method = face.get(random.nextInt(face.size()));
+        Method method = Pair.face().get(random.nextInt(Pair.face().size()));
         int[] values = new int[method.getParameterCount()];
         for (int i = 0; i < values.length; i++) {
             values[i] = randomValue(random);
         }
-        return compare(pair, method, values);
+        return pair.compare(method.getName(), values);
     }
 
     private static int randomValue(Random random) {
@@ -88,45 +64,29 @@ public final class ModelTest {
     }
 
     /** A ROW of PLACES, each beside the one ahead, and what is planned by it. */
-    private static boolean walk(Pair pair, List<Method> face) throws ReflectiveOperationException {
-        Random random = pair.random;
+    private static boolean walk(Pair pair, Random random) {
         if (pair.plain.count(0) == 0) {
             return true;
         }
         int size = random.nextInt(9);
-        boolean same = compare(pair, named(face, "row"), 5, size);
+        boolean same = pair.compare("row", 5, size) && pair.compare("here");
         int x = pair.plain.here();
-        same &= pair.wood.here() == x;
         for (int i = 0; i < size && same; i++) {
-            pair.plain.place(x, 1);
+            same = pair.compare("place", x, 1);
             int around = pair.plain.asked();
-            pair.wood.place(x, 1);
             int y = random.nextInt(8);
             for (int k = 0; k < 8 && (around >> y & 1) == 0; k++) {
                 y = (y + 1) % 8;
             }
-            same = compare(pair, named(face, "lay"), 5, i, y);
+            same = same && pair.compare("lay", 5, i, y);
             x = y < pair.plain.count(0) ? y : x;
         }
         int n = random.nextInt(4);
-        return same && compare(pair, named(face, "fewest"), 5, n) && compare(pair, named(face, "surest"), 5, n);
+        return same && pair.compare("fewest", 5, n) && pair.compare("surest", 5, n);
     }
 
-    private static Method named(List<Method> face, String name) {
-        for (Method method : face) {
-            if (method.getName().equals(name)) {
-                return method;
-            }
-        }
-        throw new IllegalStateException("no method " + name);
-    }
-
-    private static boolean writeWood(Pair pair, List<Method> face, String text) throws ReflectiveOperationException {
-        boolean same = compare(pair, named(face, "text"), 0, text.length());
-        for (int i = 0; i < text.length() && same; i++) {
-            same = compare(pair, named(face, "put"), 0, i, text.charAt(i));
-        }
-        return same && compare(pair, named(face, "fault"), 0) && compare(pair, named(face, "wood"), 0);
+    private static boolean writeWood(Pair pair, String text) {
+        return pair.write(0, text) && pair.compare("fault", 0) && pair.compare("wood", 0);
     }
 
     private static String randomWood(Random random) {
@@ -163,62 +123,32 @@ public final class ModelTest {
     }
 
     /** Texts with a sign or two changed, so that FAULTS of all sorts come up. */
-    private static void texts(List<Method> face) throws ReflectiveOperationException {
-        Pair pair = new Pair(4711);
+    private static void texts() {
+        Pair pair = new Pair();
+        Random random = new Random(4711);
         boolean same = true;
         for (int i = 0; i < TEXTS && same; i++) {
-            StringBuilder text = new StringBuilder(randomWood(pair.random));
-            int changes = pair.random.nextInt(3);
-            for (int k = 0; k < changes; k++) {
-                char sign = "pgtbmc-vk0123456789 x".charAt(pair.random.nextInt(21));
-                int spot = pair.random.nextInt(text.length());
-                if (pair.random.nextBoolean()) {
-                    text.setCharAt(spot, sign);
-                } else if (text.length() < 80) {
-                    text.insert(spot, sign);
-                }
-            }
-            text.setLength(pair.random.nextInt(4) == 0 ? pair.random.nextInt(text.length() + 1) : text.length());
             pair.log.setLength(0);
-            same = writeWood(pair, face, text.toString());
+            same = writeWood(pair, changed(randomWood(random), random));
         }
         if (!same) {
             System.out.println(pair.log);
         }
     }
 
-    private static boolean compare(Pair pair, Method method, int... values) throws ReflectiveOperationException {
-        StringBuilder call = new StringBuilder(method.getName()).append('(');
-        Object[] boxed = new Object[values.length];
-        for (int i = 0; i < values.length; i++) {
-            boxed[i] = values[i];
-            call.append(i == 0 ? "" : ", ").append(values[i]);
+    private static String changed(String right, Random random) {
+        StringBuilder text = new StringBuilder(right);
+        int changes = random.nextInt(3);
+        for (int k = 0; k < changes; k++) {
+            char sign = "pgtbmc-vk0123456789 x".charAt(random.nextInt(21));
+            int spot = random.nextInt(text.length());
+            if (random.nextBoolean()) {
+                text.setCharAt(spot, sign);
+            } else if (text.length() < 80) {
+                text.insert(spot, sign);
+            }
         }
-        call.append(')');
-        pair.log.append(call).append('\n');
-        Method plain = PlainWood.class.getDeclaredMethod(method.getName(), method.getParameterTypes());
-        long want = ((Number) plain.invoke(pair.plain, boxed)).longValue();
-        long got;
-        try {
-            got = ((Number) method.invoke(pair.wood, boxed)).longValue();
-        } catch (InvocationTargetException thrown) {
-            System.out.println(call + " threw " + thrown.getCause());
-            Due.is(call.toString(), 0, 1);
-            return false;
-        }
-        Due.is(call.toString(), got, want);
-        return got == want && compareTold(pair, call.toString());
-    }
-
-    private static boolean compareTold(Pair pair, String call) {
-        long[] got = {pair.wood.asked(), pair.wood.upper(), pair.wood.lower(), pair.wood.finding(), pair.wood.digest()};
-        long[] want = {pair.plain.asked(), pair.plain.upper(), pair.plain.lower(), pair.plain.finding(), pair.plain.digest()};
-        String[] names = {"asked()", "upper()", "lower()", "finding()", "digest()"};
-        boolean same = true;
-        for (int i = 0; i < got.length; i++) {
-            Due.is(names[i] + " behind " + call, got[i], want[i]);
-            same &= got[i] == want[i];
-        }
-        return same;
+        text.setLength(random.nextInt(4) == 0 ? random.nextInt(text.length() + 1) : text.length());
+        return text.toString();
     }
 }

@@ -1,8 +1,5 @@
 import java.lang.reflect.InvocationTargetException;
-import java.lang.reflect.Method;
-import java.lang.reflect.Modifier;
 import java.util.ArrayList;
-import java.util.HashMap;
 import java.util.List;
 import java.util.Map;
 import java.util.regex.Matcher;
@@ -24,7 +21,6 @@ final class Script {
         "on", "back", "lots");
     private static final Map<String, Integer> REFUSALS = Map.of("BAD", -1, "FULL", -2, "STATE", -4);
     private static final List<String> FINDINGS = List.of("", "NOTHING", "BEYOND", "UNLIKE", "NOUGHT", "SIZE");
-    private static final Map<String, Method> FACE = face();
     private static final Pattern CALL = Pattern.compile("(\\w+)\\(([^)]*)\\)");
     private static final Pattern LINE = Pattern.compile("(\\w+\\([^)]*\\)) = (\\S+)(?: : (\\S+))?");
 
@@ -54,7 +50,7 @@ final class Script {
     /** A call by its words; what it throws is an answer that can't be due. */
     static long call(CrumbWood x, String words) {
         Matcher call = CALL.matcher(words);
-        if (!call.matches() || !FACE.containsKey(call.group(1))) {
+        if (!call.matches()) {
             throw new IllegalArgumentException("no call: " + words);
         }
         String[] numbers = call.group(2).isBlank() ? new String[0] : call.group(2).split(",");
@@ -63,23 +59,13 @@ final class Script {
             values[i] = Integer.valueOf(numbers[i].trim());
         }
         try {
-            return ((Number) FACE.get(call.group(1)).invoke(x, values)).longValue();
+            return ((Number) Pair.named(call.group(1)).invoke(x, values)).longValue();
         } catch (InvocationTargetException thrown) {
             System.out.println(words + " threw " + thrown.getCause());
             return Long.MIN_VALUE;
         } catch (IllegalAccessException closed) {
             throw new IllegalStateException(closed);
         }
-    }
-
-    private static Map<String, Method> face() {
-        Map<String, Method> face = new HashMap<>();
-        for (Method method : CrumbWood.class.getDeclaredMethods()) {
-            if (Modifier.isPublic(method.getModifiers())) {
-                face.put(method.getName(), method);
-            }
-        }
-        return face;
     }
 
     private void step(String line) {
