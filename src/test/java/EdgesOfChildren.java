@@ -229,9 +229,15 @@ final class EdgesOfChildren {
             wood "ppp-01-12k000"; lead: 1 2; home() = 0 : 0; fool(0, 1) = 1; fool(2, 1) = 1; home() = 0 : 0
             path(1, 2, 0) = 1; home() = 0 : 0; back(0) = 1; cells 0: 2
             """);
-        Script.run("wood \"pctp-01-12-23k000\"; lead: 1 2 3; fool(2, 0) = 1; home() = 0 : 0; fool(2, 1) = 1; fool(1, 1) = 1; home() = 0 : 1");
+        Script.run("""
+            wood "pctp-01-12-23k000"; lead: 1 2 3; fool(2, 0) = 1; home() = 0 : 0; fool(2, 1) = 1; fool(1, 1) = 1
+            home() = 0 : 1
+            """);
         says("(Marks stay.");
-        Script.run("wood \"ppp-01-12k000\"; lead: 1 2; fool(1, 0) = 1; home() = 1 : 2; home() = 1 : 2; place(1, 2) = 1 : 1; here() = 2 : 2");
+        Script.run("""
+            wood "ppp-01-12k000"; lead: 1 2; fool(1, 0) = 1; home() = 1 : 2; home() = 1 : 2; place(1, 2) = 1 : 1
+            here() = 2 : 2
+            """);
         says("At HOME they are HOME at once.)");
         Script.run("""
             wood "ppp-01-12v1k000"; home() = 1 : 0; back(0) = 1; cells 0: 0

@@ -26,7 +26,8 @@ final class EdgesOfPlaces {
             + " 5 what is SEEN there from beside (1 CRUMBS, 2 STONES, 4 KNOTS, together), told by asked(): 1.");
         Script.run("""
             wood "pgtbmcpp-01-07-67k000"
-            place(0, 0) = 1 : 0; place(5, 0) = 1 : 5; place(7, 0) = 1 : 0; place(0, 1) = 1 : 130; place(7, 1) = 1 : 65; place(2, 1) = 1 : 0
+            place(0, 0) = 1 : 0; place(5, 0) = 1 : 5; place(7, 0) = 1 : 0; place(0, 1) = 1 : 130; place(7, 1) = 1 : 65
+            place(2, 1) = 1 : 0
             place(7, 2) = 1 : 0; place(7, 3) = 1 : 0; place(7, 4) = 1 : 0; place(7, 5) = 1 : 0
             20 times fool(7, 0); 2 times fool(7, 1); 3 times fool(7, 2)
             place(7, 2) = 1 : 20; place(7, 3) = 1 : 2; place(7, 4) = 1 : 3; place(7, 5) = 1 : 7
@@ -64,7 +65,10 @@ final class EdgesOfPlaces {
             on(0) = 1; mark(1, 3) = 1; wood(0) = 2; mark(1, 3) = 0
             """);
         Sentences.says(13, "a MEADOW how many KNOTS lie there truly,");
-        Script.run("wood \"pm-01k000\"; place(1, 5) = 1 : 4; mark(1, 4) = 0; 2 times fool(1, 2); mark(1, 4) = 2; take(1, 2) = 2; mark(1, 4) = 0");
+        Script.run("""
+            wood "pm-01k000"; place(1, 5) = 1 : 4; mark(1, 4) = 0; 2 times fool(1, 2); mark(1, 4) = 2; take(1, 2) = 2
+            mark(1, 4) = 0
+            """);
         Sentences.says(13, "a CAVE how many PLACES beside it are THICKETS (CAVES, too).");
         Script.run("""
             wood "pcctgbmt-10-14-15-16k000"; mark(1, 5) = 0; path(1, 3, 1) = 0; mark(1, 5) = 1; path(1, 2, 1) = 0; mark(1, 5) = 2
@@ -86,7 +90,8 @@ final class EdgesOfPlaces {
         Sentences.says(14, "A PATH between two PLACES (1), or none (0): what it was.");
         Script.run("""
             wood "pppppppp-07k000"
-            path(0, 7, 1) = 1; path(7, 0, 1) = 1; path(7, 0, 0) = 1; path(0, 7, 0) = 0; count(1) = 0; place(0, 1) = 1 : 0; place(7, 1) = 1 : 0
+            path(0, 7, 1) = 1; path(7, 0, 1) = 1; path(7, 0, 0) = 1; path(0, 7, 0) = 0; count(1) = 0; place(0, 1) = 1 : 0
+            place(7, 1) = 1 : 0
             path(7, 0, 1) = 0; path(0, 7, 1) = 1; count(1) = 1; place(0, 1) = 1 : 128; place(7, 1) = 1 : 1
             lead(7) = 1; path(0, 7, 0) = 1; here() = 7 : 1; lead(0) = STATE; led(0) = 2; cells 0: 0 7
             """);
@@ -135,7 +140,8 @@ final class EdgesOfPlaces {
     private static void lead() {
         Sentences.says(17, "THE CHILDREN are LED to a PLACE: how many STEPS they went.");
         Script.run("""
-            wood "pppppppp-07-71k000"; lead(7) = 1; here() = 7 : 1; lead(1) = 2; here() = 1 : 2; lead(7) = 3; lead(0) = 4; here() = 0 : 4
+            wood "pppppppp-07-71k000"; lead(7) = 1; here() = 7 : 1; lead(1) = 2; here() = 1 : 2; lead(7) = 3; lead(0) = 4
+            here() = 0 : 4
             count(3) = 4; led(0) = 5; cells 0: 0 7 1 7 0
             """);
         Sentences.says(17, "BAD; STATE: not beside;");
@@ -182,7 +188,10 @@ final class EdgesOfPlaces {
                 + ") = 21; " + call + " = 1; fool(0, " + m + ") = 1");
         }
         // CRUMBS never lie in a BROOK, so that there it is never FULL
-        Script.run("wood \"bpk000\"; 40 times fool(0, 0); fool(0, 0) = 0; mark(0, 3) = 41; 20 times fool(0, 1); fool(0, 1) = FULL; fool(0, 0) = 0");
+        Script.run("""
+            wood "bpk000"; 40 times fool(0, 0); fool(0, 0) = 0; mark(0, 3) = 41; 20 times fool(0, 1); fool(0, 1) = FULL
+            fool(0, 0) = 0
+            """);
         CrumbWood x = Script.run("fool(0, 0) = BAD; wood \"ppk000\"; 20 times fool(1, 2); fool(1, 2) = FULL");
         EdgesOfRows.bad(x, "fool(?, 0)", 2);
         EdgesOfRows.bad(x, "fool(1, ?)", 3);
@@ -206,7 +215,8 @@ final class EdgesOfPlaces {
         Sentences.says(21, "n (0 .. 40) HOURS go by: how many CRUMBS were eaten.");
         Script.run("""
             wood "ppp-01-12v0k000"; 3 times fool(0, 0); 2 times fool(1, 0); fool(2, 0) = 1
-            hours(0) = 0; bird(0) = 0; hours(1) = 3; bird(0) = 1; hours(0) = 0; hours(2) = 3; bird(0) = 1; fool(1, 0) = 1; hours(1) = 1
+            hours(0) = 0; bird(0) = 0; hours(1) = 3; bird(0) = 1; hours(0) = 0; hours(2) = 3; bird(0) = 1; fool(1, 0) = 1
+            hours(1) = 1
             hours(1) = 0; hours(40) = 0; bird(0) = 1
             """);
         // 40 HOURS are ten rounds of four; 39 end ahead of it
@@ -220,18 +230,27 @@ final class EdgesOfPlaces {
 
     private static void here() {
         Sentences.says(22, "Where THE CHILDREN are; how many STEPS they went by asked().");
-        Script.run("wood \"pp-01k000\"; here() = 0 : 0; lead(1) = 1; here() = 1 : 1; lots(20, 1) = 20; lots(9, 1) = 9; here() = 0 : 30");
+        Script.run("""
+            wood "pp-01k000"; here() = 0 : 0; lead(1) = 1; here() = 1 : 1; lots(20, 1) = 20; lots(9, 1) = 9; here() = 0 : 30
+            """);
         Sentences.says(22, "STATE: no PLACES.");
-        Script.run("here() = STATE; text 0 \"pp\"; wood(0) = STATE; here() = STATE; row 0: 3; at(0, 0) = 1 : 3; here() = STATE; asked() = 3");
+        Script.run("""
+            here() = STATE; text 0 "pp"; wood(0) = STATE; here() = STATE; row 0: 3; at(0, 0) = 1 : 3; here() = STATE
+            asked() = 3
+            """);
     }
 
     private static void led() {
         Sentences.says(23, "The PLACES by which they were LED, from HOME on, come to a ROW (anew): how many.");
         CrumbWood x = Script.run("""
-            wood "ppp-01-12k000"; led(0) = 1; cells 0: 0; lead: 1 2; row(5, 40) = 40; lay(5, 39, 7) = 1; led(5) = 3; cells 5: 0 1 2
+            wood "ppp-01-12k000"; led(0) = 1; cells 0: 0; lead: 1 2; row(5, 40) = 40; lay(5, 39, 7) = 1; led(5) = 3
+            cells 5: 0 1 2
             row(4, 0) = 0; led(4) = 3; cells 4: 0 1 2; count(7) = 3
             """);
-        Script.on(x, "lead: 1; 13 times lots(2, 1); lead: 2; led(1) = 31; at(1, 0) = 1 : 0; at(1, 3) = 1 : 1; at(1, 30) = 1 : 2; at(1, 31) = BEYOND");
+        Script.on(x, """
+            lead: 1; 13 times lots(2, 1); lead: 2; led(1) = 31; at(1, 0) = 1 : 0; at(1, 3) = 1 : 1; at(1, 30) = 1 : 2
+            at(1, 31) = BEYOND
+            """);
         Sentences.says(23, "BAD; STATE: no PLACES.");
         EdgesOfRows.bad(x, "led(?)", 6);
         EdgesOfRows.bad(Script.run("led(0) = STATE; led(5) = STATE; row 0: 1 2; led(0) = STATE; cells 0: 1 2"), "led(?)", 6);
@@ -253,7 +272,8 @@ final class EdgesOfPlaces {
         Sentences.says(25, "The WOOD is as it was kept: how many STEPS.");
         Script.run("""
             wood "ppb-01-12v0v1k333"; lead: 1 2; drop(0) = 2; drop(1) = 2; fool(0, 0) = 1; fool(1, 2) = 1; keep(1) = 2
-            lead: 1; drop(0) = 1; drop(1) = 1; drop(2) = 2; take(2, 1) = 1; take(1, 2) = 2; path(0, 1, 0) = 1; path(0, 2, 1) = 0; hours(1) = 2
+            lead: 1; drop(0) = 1; drop(1) = 1; drop(2) = 2; take(2, 1) = 1; take(1, 2) = 2; path(0, 1, 0) = 1
+            path(0, 2, 1) = 0; hours(1) = 2
             row 0: 5; text(3, 2) = 2; on(1) = 2
             here() = 2 : 2; led(2) = 3; cells 2: 0 1 2; pocket(0) = 2; pocket(1) = 2; pocket(2) = 3
             place(2, 3) = 1 : 1; place(0, 2) = 1 : 1; place(1, 4) = 1 : 1; place(1, 2) = 1 : 0; place(1, 3) = 1 : 0
@@ -261,11 +281,16 @@ final class EdgesOfPlaces {
             cells 0: 5; count(8) = 2; count(9) = 1
             lead: 1; hours(2) = 1; on(1) = 2; here() = 2 : 2; place(0, 2) = 1 : 1; on(1) = 2
             """);
-        Script.run("wood \"pp-01k000\"; keep(0) = 0; lots(20, 1) = 20; lots(10, 1) = 10; keep(1) = 30; on(0) = 0; lead(1) = 1; on(1) = 30; lead(1) = FULL");
+        Script.run("""
+            wood "pp-01k000"; keep(0) = 0; lots(20, 1) = 20; lots(10, 1) = 10; keep(1) = 30; on(0) = 0; lead(1) = 1
+            on(1) = 30; lead(1) = FULL
+            """);
         // the last of 30 STEPS, and the one ahead of it, led elsewhere in the WOOD that is gone on from
         Script.run("""
-            wood "pppp-01-02-13-23k000"; 14 times lots(2, 1); keep(0) = 28; lead: 1 3; keep(1) = 30; on(0) = 28; lead: 2; keep(2) = 29; lead: 0
-            here() = 0 : 30; on(1) = 30; here() = 3 : 30; led(0) = 31; at(0, 29) = 1 : 1; at(0, 30) = 1 : 3; on(2) = 29; here() = 2 : 29; lead: 0
+            wood "pppp-01-02-13-23k000"; 14 times lots(2, 1); keep(0) = 28; lead: 1 3; keep(1) = 30; on(0) = 28; lead: 2
+            keep(2) = 29; lead: 0
+            here() = 0 : 30; on(1) = 30; here() = 3 : 30; led(0) = 31; at(0, 29) = 1 : 1; at(0, 30) = 1 : 3; on(2) = 29
+            here() = 2 : 29; lead: 0
             on(1) = 30; here() = 3 : 30; wrong() = NONE; lead(1) = FULL
             """);
         Sentences.says(25, "BAD; NOTHING.");

@@ -150,8 +150,10 @@ final class EdgesOfRows {
         Script.on(x, """
             copy(0, 0, 1, 0, 2) = 1; cells 1: 1 2; row 1: 7 8
             copy(0, 0, 1, 0, 3) = BEYOND; copy(0, 0, 1, 1, 2) = BEYOND; copy(0, 2, 1, 0, 2) = BEYOND; copy(1, 0, 0, 0, 3) = BEYOND
-            copy(0, 3, 1, 0, 1) = BEYOND; copy(0, 0, 1, 2, 1) = BEYOND; copy(0, -1, 1, 0, 1) = BEYOND; copy(0, 0, 1, -1, 1) = BEYOND
-            copy(0, 4, 1, 0, 0) = BEYOND; copy(0, 0, 1, 3, 0) = BEYOND; copy(0, -1, 1, 0, 0) = BEYOND; copy(0, 0, 1, -1, 0) = BEYOND
+            copy(0, 3, 1, 0, 1) = BEYOND; copy(0, 0, 1, 2, 1) = BEYOND; copy(0, -1, 1, 0, 1) = BEYOND
+            copy(0, 0, 1, -1, 1) = BEYOND
+            copy(0, 4, 1, 0, 0) = BEYOND; copy(0, 0, 1, 3, 0) = BEYOND; copy(0, -1, 1, 0, 0) = BEYOND
+            copy(0, 0, 1, -1, 0) = BEYOND
             copy(0, 1, 1, 0, 2147483647) = BEYOND; copy(0, 2147483647, 1, 0, 1) = BEYOND; copy(0, 0, 1, 2147483647, 1) = BEYOND
             copy(0, 2147483647, 1, 2147483647, 2147483647) = BEYOND; copy(0, -2147483648, 1, 0, 2147483647) = BEYOND
             copy(0, 0, 1, -2147483648, 0) = BEYOND; cells 0: 1 2 3; cells 1: 7 8
@@ -216,7 +218,9 @@ final class EdgesOfRows {
             text(1, 0) = 0; fault(1) = 0; text(1, 80) = 80; fault(1) = 80
             """);
         Sentences.says(10, "NONE: there is none.");
-        Script.run("text 0 \"pp-01k000\"; fault(0) = NONE; fault(0) = NONE; count(0) = 0; here() = STATE; wood(0) = 2; fault(0) = NONE");
+        Script.run("""
+            text 0 "pp-01k000"; fault(0) = NONE; fault(0) = NONE; count(0) = 0; here() = STATE; wood(0) = 2; fault(0) = NONE
+            """);
         Sentences.says(10, "BAD; NOTHING.");
         CrumbWood x = Script.run("fault(0) = NOTHING; fault(3) = NOTHING; text 0 \"ppk000\"; fault(0) = NONE; fault(1) = NOTHING");
         bad(x, "fault(?)", 4);
@@ -224,10 +228,14 @@ final class EdgesOfRows {
 
     private static void wood() {
         Sentences.says(11, "A WOOD by a TEXT (anew: no MARKS, THE CHILDREN at HOME; kept WOODS go): how many PLACES.");
-        Script.run("text 0 \"ppk000\"; wood(0) = 2; text 3 \"ppppppppk000\"; wood(3) = 8; count(0) = 8; wood(0) = 2; count(0) = 2");
         Script.run("""
-            text 1 "pbt-01-12v1k321"; wood(1) = 3; lead: 1 2; drop(0) = 2; drop(1) = 1; drop(2) = 0; fool(1, 0) = 0; fool(0, 0) = 1
-            keep(0) = 2; keep(1) = 2; keep(2) = 2; path(0, 1, 0) = 1; path(0, 2, 1) = 0; hours(1) = 0; bird(0) = 2; odds() = 1 : 1/1
+            text 0 "ppk000"; wood(0) = 2; text 3 "ppppppppk000"; wood(3) = 8; count(0) = 8; wood(0) = 2; count(0) = 2
+            """);
+        Script.run("""
+            text 1 "pbt-01-12v1k321"; wood(1) = 3; lead: 1 2; drop(0) = 2; drop(1) = 1; drop(2) = 0; fool(1, 0) = 0
+            fool(0, 0) = 1
+            keep(0) = 2; keep(1) = 2; keep(2) = 2; path(0, 1, 0) = 1; path(0, 2, 1) = 0; hours(1) = 0; bird(0) = 2
+            odds() = 1 : 1/1
             row 0: 4; at(0, 0) = 1 : 4
             wood(1) = 3; count(4) = 0; count(5) = 0; count(6) = 0; mark(1, 3) = 0; count(9) = 0
             on(0) = NOTHING; on(1) = NOTHING; on(2) = NOTHING
@@ -236,14 +244,20 @@ final class EdgesOfRows {
             """);
         // nor does anything come into it of what was only looked at
         Script.run("""
-            text 1 "pppk321"; wood "tbcm-01-12-23v1k999"; lead: 1 2 3; drop(0) = 8; drop(1) = 8; fool(1, 0) = 0; fool(1, 2) = 1; fool(0, 0) = 1
+            text 1 "pppk321"; wood "tbcm-01-12-23v1k999"; lead: 1 2 3; drop(0) = 8; drop(1) = 8; fool(1, 0) = 0
+            fool(1, 2) = 1; fool(0, 0) = 1
             waits() = 0; bare() = NONE; row(0, 0) = 0; fewest(0, 3) = NONE; fault(1) = NONE; waits() = 0; wood(1) = 3
-            here() = 0 : 0; led(1) = 1; cells 1: 0; count(1) = 0; count(2) = 0; count(3) = 0; count(4) = 0; count(5) = 0; count(6) = 0; count(10) = 0
-            pocket(0) = 3; pocket(1) = 2; pocket(2) = 1; mark(1, 3) = UNLIKE; mark(0, 2) = UNLIKE; place(2, 5) = 1 : 0; place(3, 0) = BAD
-            waits() = NONE; wood(0) = 4; mark(1, 3) = 0; mark(0, 2) = 0; count(4) = 0; count(6) = 0; lead: 1 2 3; home() = 0 : 0
+            here() = 0 : 0; led(1) = 1; cells 1: 0; count(1) = 0; count(2) = 0; count(3) = 0; count(4) = 0; count(5) = 0
+            count(6) = 0; count(10) = 0
+            pocket(0) = 3; pocket(1) = 2; pocket(2) = 1; mark(1, 3) = UNLIKE; mark(0, 2) = UNLIKE; place(2, 5) = 1 : 0
+            place(3, 0) = BAD
+            astray() = 0; helps() = 0; nearest() = 0 : 1; waits() = NONE; wood(0) = 4; mark(1, 3) = 0; mark(0, 2) = 0
+            count(4) = 0; count(6) = 0; lead: 1 2 3; home() = 0 : 0
             """);
         // the TEXT is read once: what is put later changes no WOOD
-        Script.run("text 0 \"pp-01k000\"; wood(0) = 2; put(0, 0, 120) = 1112; count(0) = 2; lead(1) = 1; wood(0) = STATE; here() = 1 : 1");
+        Script.run("""
+            text 0 "pp-01k000"; wood(0) = 2; put(0, 0, 120) = 1112; count(0) = 2; lead(1) = 1; wood(0) = STATE; here() = 1 : 1
+            """);
     }
 
     private static void woodRefused() {

@@ -166,6 +166,15 @@ final class EdgesOfTerms {
             fool(2, 2) = 1
             odds() = 1 : 1/1
             """);
+        // CRUMBS on all eight: of 256 cases none, then all of them
+        CrumbWood x = Script.run("wood \"pppppppp-01-12k000\"");
+        for (int place = 0; place < 8; place++) {
+            x.fool(place, 0);
+        }
+        Script.on(x, """
+            odds() = 1 : 1/1; best() = 0 : 1/1; lead: 1 2; odds() = 1 : 1/2; path(0, 1, 0) = 1; odds() = 1 : 0/1
+            best() = 0 : 0/1
+            """);
     }
 
     private static void sets() {

@@ -1,4 +1,6 @@
 import java.io.IOException;
+import java.lang.reflect.Field;
+import java.lang.reflect.Modifier;
 import java.nio.file.Files;
 import java.nio.file.Path;
 import java.util.List;
@@ -27,9 +29,34 @@ public final class LanguageTest {
         }
         library(code);
         methods(code);
+        making(code);
+        fields(CrumbWood.class);
+        for (Class<?> inside : CrumbWood.class.getDeclaredClasses()) {
+            fields(inside);
+        }
         Matcher classes = Pattern.compile("\\b(class|enum|record|interface) [A-Z]").matcher(code);
         Due.is("at most twelve classes", classes.results().count() <= 12 ? 1 : 0, 1);
         Due.end();
+    }
+
+    /** Rule 12 by the shortest way: what is made is made in field initialisers and constructors, so that no call makes anything. */
+    private static void making(String code) {
+        for (String line : code.split("\n")) {
+            if (line.matches(".*\\bnew\\b.*")) {
+                boolean field = line.matches(" +private (final )?[\\w\\[\\]]+ \\w+ = new .*;");
+                boolean constructor = line.matches(" +((rows|texts)\\[\\w] = new Strip|kept\\[\\w] = new Wood|cells = new int).*;");
+                Due.is("it is made once: " + line.trim(), field || constructor ? 1 : 0, 1);
+            }
+        }
+    }
+
+    /** Rule 11: some twenty fields beside the constants. */
+    private static void fields(Class<?> of) {
+        int own = 0;
+        for (Field field : of.getDeclaredFields()) {
+            own += Modifier.isStatic(field.getModifiers()) ? 0 : 1;
+        }
+        Due.is(of.getSimpleName() + " has few fields", own <= 20 ? 1 : 0, 1);
     }
 
     private static void library(String code) {
