@@ -1,7 +1,3 @@
-import java.io.IOException;
-import java.io.UncheckedIOException;
-import java.nio.file.Files;
-import java.nio.file.Path;
 import java.util.Arrays;
 import java.util.Map;
 import java.util.TreeMap;
@@ -12,7 +8,6 @@ import java.util.TreeMap;
  */
 final class Sentences {
     static final int CALLS = -1, TERMS = 0, PROMISES = 48;
-    private static final Path DOCUMENT = Path.of("../shared/DOC.md");
 
     /** One part of the document, and which of its signs a test has named. */
     private static final class Part {
@@ -76,7 +71,7 @@ final class Sentences {
             parts = new TreeMap<>();
             Map<Integer, StringBuilder> texts = new TreeMap<>();
             int part = CALLS - 1;
-            for (String line : lines()) {
+            for (String line : Document.lines()) {
                 if (line.startsWith("## ")) {
                     part = partOf(line);
                 } else if (part >= CALLS && belongs(part, line)) {
@@ -86,14 +81,6 @@ final class Sentences {
             texts.forEach((p, text) -> parts.put(p, new Part(folded(text.toString()))));
         }
         return parts;
-    }
-
-    private static String[] lines() {
-        try {
-            return Files.readString(DOCUMENT).split("\n");
-        } catch (IOException failed) {
-            throw new UncheckedIOException(failed);
-        }
     }
 
     private static int partOf(String heading) {
